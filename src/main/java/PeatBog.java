@@ -583,20 +583,37 @@ public final class PeatBog {
             return tape[at] >= '0' && tape[at] <= '9';
         }
 
+        Token kindOf(int token) {
+            boolean isThere = token >= 0 && token < kinds.length && kinds[token] != null;
+            return isThere ? kinds[token] : Token.WRONG;
+        }
+
+        int startOf(int token) {
+            return token >= 0 && token < starts.length ? starts[token] : length;
+        }
+
+        private int endOf(int token) {
+            return token >= 0 && token < ends.length ? ends[token] : length;
+        }
+
         int numberAt(int token) {
             int number = 0;
-            for (int i = starts[token]; i < ends[token]; i++) {
+            int end = endOf(token);
+            for (int i = startOf(token); i < end; i++) {
                 number = number * 10 + (tape[i] - '0');
             }
             return number;
         }
 
         boolean isSameText(int one, int other) {
-            if (ends[one] - starts[one] != ends[other] - starts[other]) {
+            int start = startOf(one);
+            int otherStart = startOf(other);
+            int size = endOf(one) - start;
+            if (endOf(other) - otherStart != size) {
                 return false;
             }
-            for (int i = 0; i < ends[one] - starts[one]; i++) {
-                if (tape[starts[one] + i] != tape[starts[other] + i]) {
+            for (int i = 0; i < size; i++) {
+                if (tape[start + i] != tape[otherStart + i]) {
                     return false;
                 }
             }
@@ -685,14 +702,13 @@ public final class PeatBog {
         }
 
         private Token kind() {
-            boolean isThere = at < scanner.kinds.length && scanner.kinds[at] != null;
-            return isThere ? scanner.kinds[at] : Token.WRONG;
+            return scanner.kindOf(at);
         }
 
         /** Error 1 goes before the others, wherever they are. */
         private boolean refuse() {
             error = 1;
-            errorPosition = at < scanner.starts.length ? scanner.starts[at] : scanner.length;
+            errorPosition = scanner.startOf(at);
             return false;
         }
 
@@ -700,7 +716,7 @@ public final class PeatBog {
         private void note(int newError, int token) {
             if (error == 0) {
                 error = newError;
-                errorPosition = scanner.starts[token];
+                errorPosition = scanner.startOf(token);
             }
         }
 
@@ -1203,11 +1219,20 @@ public final class PeatBog {
         private int neighboursWithPeat(int at) {
             int x = at % SIDE;
             int y = at / SIDE;
-            return peatyBefore(x - 1, y) + peatyBefore(x + 1, y) + peatyBefore(x, y - 1) + peatyBefore(x, y + 1);
-        }
-
-        private int peatyBefore(int x, int y) {
-            return isCell(x, y) && peatBefore[cellAt(x, y)] > 0 ? 1 : 0;
+            int found = 0;
+            if (x > 0 && peatBefore[at - 1] > 0) {
+                found++;
+            }
+            if (x < SIDE - 1 && peatBefore[at + 1] > 0) {
+                found++;
+            }
+            if (y > 0 && peatBefore[at - SIDE] > 0) {
+                found++;
+            }
+            if (y < SIDE - 1 && peatBefore[at + SIDE] > 0) {
+                found++;
+            }
+            return found;
         }
     }
 
