@@ -99,6 +99,11 @@ public final class ForesightTest {
         CHECK.same("never", bog.dries(2, 1), -1);
         bog.setWeather(2, 0, 3);
         CHECK.same("at the day 2, 14, 26, 38 and 50: 49 nights", bog.dries(2, 1), 49);
+        bog.setWeather(2, 0, 2);
+        bog.stack(6, 6, 5, 15);
+        bog.stack(5, 6, 5, 16);
+        CHECK.same("15 less 2 at these days", bog.dries(6, 6), 49);
+        CHECK.same("16 would be dry behind 61 nights", bog.dries(5, 6), -1);
         bog.setWeather(2, 0, 0);
         bog.setWeather(1, 0, 3);
         CHECK.same("at the day 13, 25, 37, 49 and 61: 60 nights", bog.dries(2, 1), 60);
@@ -144,6 +149,7 @@ public final class ForesightTest {
         bog.stack(1, 1, 30, 18);
         CHECK.same("any of the first days is as good: the first", bog.advise(24), 0);
         CHECK.same("too few hours", bog.advise(23), -1);
+        CHECK.same("the fewest hours", bog.advise(1), -1);
         CHECK.same("not yet unloaded without", bog.advise(43), 0);
         CHECK.same("unloaded all the same", bog.advise(44), -1);
         bog.setWeather(0, 0, 8);

@@ -253,6 +253,11 @@ public final class HoursTest {
         bog = Check.taught("gang a at 5 6 { repeat 2 { if peat > 0 { repeat 2 { while peat > 28 { cut 1; } cut 2; } } } }");
         bog.pass(6);
         CHECK.same("loops in one another", bog.count(10), 2 + 8);
+        bog = Check.taught("gang a at 5 6 { repeat 1 { repeat 1 { repeat 1 { repeat 1 { repeat 1 { repeat 2 {"
+                + " repeat 3 { cut 1; } } } } } } } turn; }");
+        bog.pass(7);
+        CHECK.same("the deepest loops", bog.count(10), 6);
+        CHECK.same("turned behind them", bog.cell(5, 6, 4), 1);
     }
 
     /** So many hours are idle ahead of the one in which the first brick is cut. */
@@ -389,6 +394,7 @@ public final class HoursTest {
         stack("wetter, too", bog, 2, 40, 17, 0);
         stack("less than 10 lose none", bog, 6, 9, 20, 0);
         stack("19 lose 1", bog, 7, 18, 20, 0);
+        stack("none, in a night of rain", bog, 4, 0, 0, 0);
         stack("99 lose 9", bog, 0, 90, 20, 0);
         stack("wetter than 5, but not 20", bog, 5, 10, 11, 0);
         CHECK.same("crumbled", bog.count(9), 10);
@@ -484,6 +490,36 @@ public final class HoursTest {
         bog.set(4, 4, 0, 7);
         bog.pass(40);
         peat(bog, 4, 4, 1);
+        risesAtTheEdges();
+    }
+
+    /** The cells at the ends of a line are no neighbours of those in the next one. */
+    private static void risesAtTheEdges() {
+        PeatBog bog = new PeatBog();
+        for (int i = 1; i < 64; i++) {
+            bog.set(i % 8, i / 8, 0, 9);
+        }
+        for (int day = 0; day < 4; day++) {
+            bog.setWeather(day, 0, 0);
+        }
+        bog.set(7, 2, 9, 9);
+        bog.set(1, 3, 9, 9);
+        bog.set(0, 6, 9, 9);
+        bog.set(6, 5, 9, 9);
+        bog.set(7, 4, 9, 9);
+        bog.pass(40);
+        peat(bog, 0, 3, 0);
+        peat(bog, 7, 3, 1);
+        peat(bog, 7, 5, 1);
+        peat(bog, 7, 6, 0);
+        peat(bog, 0, 7, 0);
+        peat(bog, 6, 4, 1);
+        CHECK.same("peat with neighbours at the edges", bog.count(11), 5 * 10 + 3);
+        bog.set(7, 4, 0, 9);
+        bog.set(7, 3, 0, 9);
+        bog.set(7, 5, 0, 9);
+        bog.pass(40);
+        peat(bog, 7, 5, 0);
     }
 
     private static void peat(PeatBog bog, int x, int y, int due) {

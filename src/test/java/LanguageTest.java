@@ -81,7 +81,7 @@ public final class LanguageTest {
     private static void teaching() {
         PeatBog bog = new PeatBog();
         CHECK.same("errorAt() ahead of teach()", bog.errorAt(), -1);
-        Check.teachText(bog, "gang a at 1 0 { load 9; } gang b at 2 2 { }");
+        Check.teachText(bog, "gang a at 1 0 { load 9; load 0; wait 20; } gang b at 2 2 { }");
         bog.stack(1, 0, 20, 7);
         bog.pass(2);
         CHECK.same("cart", bog.count(8), 9);
@@ -89,10 +89,13 @@ public final class LanguageTest {
         CHECK.same("errorAt()", bog.errorAt(), 12);
         CHECK.same("tape behind an error", bog.count(3), 0);
         CHECK.same("gangs stay", bog.count(2), 2);
+        CHECK.same("missed hours stay", bog.gang(0, 6), 1);
         CHECK.same("carts stay", bog.gang(0, 2), 9);
         CHECK.same("hours stay", bog.gang(1, 7), 2);
         bog.feed(0, 0, 0, 0, 0);
         CHECK.same("errorAt() stays", bog.errorAt(), 12);
+        bog.pass(1);
+        CHECK.same("programs stay", bog.gang(0, 8), 19);
         CHECK.same("teach() of another text", Check.teachText(bog, "gang c at 3 4 { wait 2; }"), 0);
         CHECK.same("errorAt() of it", bog.errorAt(), -1);
         CHECK.same("gangs", bog.count(2), 1);
@@ -102,11 +105,25 @@ public final class LanguageTest {
             CHECK.same("new gang, " + what, bog.gang(0, what), fresh[what]);
         }
         CHECK.same("stack stays", bog.cell(1, 0, 2), 11);
-        CHECK.same("hour stays", bog.count(1), 2);
+        CHECK.same("hour stays", bog.count(1), 3);
         bog.pass(3);
         CHECK.same("it is the new program", bog.gang(0, 4), 1);
         CHECK.same("teach() of nothing", bog.teach(), 0);
         CHECK.same("gangs of nothing", bog.count(2), 0);
+        teachingOften();
+    }
+
+    /** No text leaves anything to the next one but the gangs, and those only if it is right. */
+    private static void teachingOften() {
+        PeatBog bog = new PeatBog();
+        for (int i = 1; i <= 20; i++) {
+            String text = HEAD + many("repeat 1 { repeat 0 { } }", 40) + "wait " + i + "; }";
+            CHECK.same("teach() " + i, Check.teachText(bog, text), 0);
+            CHECK.same("teach() of an error " + i, Check.teachText(bog, text + "gang b at 0 0 { repeat 1 { ; } }"), 1);
+            bog.pass(8);
+            CHECK.same("still to wait " + i, bog.gang(0, 8), Math.max(0, i - 6));
+            CHECK.same("idle " + i, bog.gang(0, 5), 2 + Math.max(0, 6 - i));
+        }
     }
 
     private static void tokens() {
@@ -117,6 +134,8 @@ public final class LanguageTest {
         right("gang a1b2 at 000007 000000 {}");
         right("gang a at 0 0{go 1,2;go x,y;wait 999999;if 1<=2{}if 2>=x{}if 1<-2{}if x=-1{}}");
         right("gang repeat1 at 0 0{repeat 3{}repeat 0{}}");
+        right("gang z0zyz9 at 0 0{}");
+        right("gang azz at 0 0{}");
         right("gang a at 0 0{if 1<2and 2<3or not 4<5{turn;}else{turn;}}");
         error(1, "gang ^abcdefghijk at 0 0 {}");
         error(1, "gang a at ^0000007 0 {}");
@@ -151,10 +170,27 @@ public final class LanguageTest {
             }
         }
         error(1, HEAD + " ^");
+        error(1, HEAD + "if x <=^");
+        error(1, HEAD + "if x < ^");
+        error(1, HEAD + "if x ^<=".replace("^<=", "<=") + " ^}");
         error(1, HEAD + "} ^}");
         error(1, HEAD + "} ^turn;");
         error(1, HEAD + "} ^b at 0 0 {}");
         error(1, "gang ^gang at 0 0 {}");
+        error(1, "gang ^gang a at 0 0 {} ?");
+        error(1, "gang a ^gang b at 0 0 {} ?");
+        error(1, "gang a at ^gang b at 0 0 {} ?");
+        error(1, "gang a at 0 ^gang b at 0 0 {} ?");
+        error(1, "gang a at 0 0 ^gang b at 0 0 {} ?");
+        error(1, HEAD + "if x ^turn; ?");
+        error(1, HEAD + "while ^turn; ?");
+        error(1, HEAD + "repeat ^turn; ?");
+        error(1, HEAD + "repeat 2 ^turn; ?");
+        error(1, HEAD + "if x ^{ ?");
+        error(1, HEAD + "if 1 = 1 { ^} else ?".replace("^} else ", "} else ^"));
+        error(1, HEAD + "if 1 = 1 { ^else } ?");
+        error(1, HEAD + "while 1 = 1 { ^else } ?");
+        error(1, HEAD + "repeat 1 { ^else } ?");
         error(1, "gang ^at 0 0 {}");
         error(1, "gang ^x at 0 0 {}");
         error(1, "gang a ^0 0 {}");
@@ -222,6 +258,8 @@ public final class LanguageTest {
         error(3, "gang a at 7 7 { repeat ^21 {} }");
         right("gang a at 7 7 { repeat 20 { repeat 0 {} } }");
         error(2, "gang a at 0 0 {} gang ^a at 9 9 {}");
+        error(2, "gang abc1 at 0 0 {} gang b at 0 0 {}\n\ngang ^abc1 at 0 0 {}");
+        right("gang abc1 at 0 0 {} gang abc2 at 0 0 {} gang bbc1 at 0 0 {} gang abc at 0 0 {}");
         error(2, "gang a at 0 0 {} gang b at 0 0 {} gang ^a at 0 0 {} gang b at 0 0 {}");
         right("gang a at 0 0 {} gang aa at 0 0 {} gang ab at 0 0 {} gang b at 0 0 {}");
         String four = "gang a at 0 0 {} gang b at 0 0 {} gang c at 0 0 {} gang d at 0 0 {}";
@@ -346,6 +384,8 @@ public final class LanguageTest {
         test("1 = 2 or 1 = 1", true);
         test("1 = 2 or 2 = 1", false);
         test("1 = 1 and 1 = 2", false);
+        test("1 = 2 and 1 = 1", false);
+        test("1 = 2 and 1 = 3", false);
         test("1 = 1 and 2 = 2", true);
         test("1 = 1 or 1 = 1 and 1 = 2", true);
         test("1 = 2 and 1 = 1 or 1 = 1", true);
