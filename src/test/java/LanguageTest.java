@@ -119,6 +119,7 @@ public final class LanguageTest {
         for (int i = 1; i <= 20; i++) {
             String text = HEAD + many("repeat 1 { repeat 0 { } }", 40) + "wait " + i + "; }";
             CHECK.same("teach() " + i, Check.teachText(bog, text), 0);
+            CHECK.same("not done, whatever the gang ahead of it was", bog.gang(0, 4), 0);
             CHECK.same("teach() of an error " + i, Check.teachText(bog, text + "gang b at 0 0 { repeat 1 { ; } }"), 1);
             bog.pass(8);
             CHECK.same("still to wait " + i, bog.gang(0, 8), Math.max(0, i - 6));
