@@ -1,10 +1,7 @@
 /** Promise 12, and the part 3 of the terms. */
 public final class HoursTest {
     private static final Check CHECK = new Check("HoursTest");
-    private static final int X = 0;
-    private static final int Y = 1;
     private static final int CART = 2;
-    private static final int DAMP = 3;
     private static final int DONE = 4;
     private static final int IDLE = 5;
     private static final int MISSED = 6;
@@ -31,11 +28,8 @@ public final class HoursTest {
         CHECK.finish();
     }
 
-    /** The gang 0 tells these numbers, for the kinds from X on. */
     private static void gang(String what, PeatBog bog, int... due) {
-        for (int i = 0; i < due.length; i++) {
-            CHECK.same(what + ", gang(0, " + i + ")", bog.gang(0, i), due[i]);
-        }
+        CHECK.gang(what, bog, due);
     }
 
     private static void passing() {

@@ -17,14 +17,8 @@ public final class LanguageTest {
         CHECK.finish();
     }
 
-    /** The text has the error, at its sign ^ (which is not fed). */
     private static void error(int error, String marked) {
-        int at = marked.indexOf('^');
-        String text = at < 0 ? marked : marked.substring(0, at) + marked.substring(at + 1);
-        PeatBog bog = new PeatBog();
-        CHECK.same("teach() of " + marked, Check.teachText(bog, text), error);
-        CHECK.same("errorAt() of " + marked, bog.errorAt(), at);
-        CHECK.same("gangs of " + marked, bog.count(2), error != 0 ? 0 : text.split("gang", -1).length - 1);
+        CHECK.text(error, marked);
     }
 
     private static void right(String text) {
